@@ -789,7 +789,7 @@ public final class LibraryHouse {
         }
         catalog.copyTo(work, version);
         boolean linkedSo = authority.linkedHeading(version, field) == heading;
-        if (work.firstA(field) == NONE || linkedSo) {
+        if (work.slotOf(field, 'a') == NONE || linkedSo) {
             return STATE;
         }
         if (authority.links >= LINKS) {
@@ -1249,10 +1249,6 @@ public final class LibraryHouse {
             return NONE;
         }
 
-        int firstA(int field) {
-            return slotOf(field, 'a');
-        }
-
         boolean hasRightSize() {
             boolean right = fields >= 1 && fields <= FIELDS;
             for (int field = 0; field < fields; field++) {
@@ -1549,7 +1545,7 @@ public final class LibraryHouse {
                 }
             }
             for (int field = 0; field < draft.fields; field++) {
-                int slot = draft.firstA(field);
+                int slot = draft.slotOf(field, 'a');
                 if (draft.heading[field] != 0 && slot != NONE) {
                     draft.row[slot] = nameOn(draft.heading[field], day);
                 }
@@ -1685,26 +1681,25 @@ public final class LibraryHouse {
 
         private void readWords() {
             if (tape.peek() != '"') {
-                addWord();
+                addWord(tape.takeSmallWord());
                 begins[terms] = tape.peek() == '*';
                 tape.at += begins[terms] ? 1 : 0;
                 return;
             }
             tape.takeByte('"');
-            addWord();
+            addWord(tape.takeSmallWord());
             for (int i = 1; i <= PHRASE_WORDS && tape.peek() == ' '; i++) {
                 tape.takeByte(' ');
                 if (i == PHRASE_WORDS) {
                     tape.stopAt(tape.at);
                 } else {
-                    addWord();
+                    addWord(tape.takeSmallWord());
                 }
             }
             tape.takeByte('"');
         }
 
-        private void addWord() {
-            int told = tape.takeSmallWord();
+        private void addWord(int told) {
             if (words < word.length) {
                 word[words] = told;
                 words++;
@@ -1805,7 +1800,7 @@ public final class LibraryHouse {
         }
     }
 
-    /** What lies on the desk, and is gone with the power: what was printed and found, and tokens. */
+    /** What was printed and found, and tokens: it lies on the desk, and is gone with the power. */
     private static final class Desk {
         static final int AS_IT_WAS = 0;
         static final int CHANGED = 1;
@@ -1925,7 +1920,7 @@ public final class LibraryHouse {
             int from = NONE;
             int to = NONE;
             for (int field = print.fields - 1; field >= 0; field--) {
-                int slot = print.firstA(field);
+                int slot = print.slotOf(field, 'a');
                 if (print.tag[field] == TITLE_TAG && slot != NONE) {
                     int skipped = print.second[field] == ' ' ? 0 : print.second[field] - '0';
                     from = print.row[slot] >> ROW_SHIFT;
@@ -2014,7 +2009,7 @@ public final class LibraryHouse {
 
         void addValues(Draft print, int tag, int record) {
             for (int field = 0; field < print.fields; field++) {
-                int slot = print.firstA(field);
+                int slot = print.slotOf(field, 'a');
                 if (print.tag[field] == tag && slot != NONE) {
                     addValue(print.row[slot], record);
                 }
@@ -2313,7 +2308,8 @@ public final class LibraryHouse {
                 int at = i * WIDTH[LOAN];
                 int lineKind = line[LOAN][at];
                 int lineType = line[LOAN][at + 1];
-                if ((lineKind == ANY || lineKind == kind) && (lineType == ANY || lineType == type)) {
+                if ((lineKind == ANY || lineKind == kind)
+                        && (lineType == ANY || lineType == type)) {
                     return at;
                 }
             }
@@ -2362,7 +2358,8 @@ public final class LibraryHouse {
                             || kind > HAS && draft.longestRow(field) > told;
                 }
             }
-            return broken || kind == MUST && fieldsWithTag == 0 || kind == ONCE && fieldsWithTag > 1;
+            return broken || kind == MUST && fieldsWithTag == 0
+                    || kind == ONCE && fieldsWithTag > 1;
         }
 
         /** DAYS of the first RETENTION line that FITS a PRINT, or NONE. */
@@ -2370,7 +2367,7 @@ public final class LibraryHouse {
             for (int i = 0; i < lines[KEEP]; i++) {
                 int at = i * WIDTH[KEEP];
                 for (int field = 0; field < print.fields; field++) {
-                    int slot = print.firstA(field);
+                    int slot = print.slotOf(field, 'a');
                     if (print.tag[field] == line[KEEP][at] && slot != NONE
                             && tape.isSameRow(print.row[slot], line[KEEP][at + 2])) {
                         return line[KEEP][at + 1];
@@ -2581,29 +2578,22 @@ public final class LibraryHouse {
         // -- where copies go
 
         private void settle(int copy, int at) {
-            int reader = takeFirstQueued(ofRecord[copy]);
             place[copy] = at;
             loan[copy] = 0;
-            if (reader != 0) {
-                sendOrShelve(copy, reader);
-            } else if (homePlace[copy] == at) {
-                setStatus(copy, IS_IN, 0, NONE);
-            } else {
-                sendCopy(copy, homePlace[copy], 0);
-            }
+            direct(copy, takeFirstQueued(ofRecord[copy]));
         }
 
-        private void sendOrShelve(int copy, int reader) {
-            if (readers.pickupPlace[reader] == place[copy]) {
+        /** A copy at its place goes to where a reader wants it or, for none (0), to its HOME. */
+        private void direct(int copy, int reader) {
+            int goal = reader == 0 ? homePlace[copy] : readers.pickupPlace[reader];
+            if (goal != place[copy]) {
+                sentTo[copy] = goal;
+                setStatus(copy, IS_UNDER_WAY, reader, rules.arrivalDay(place[copy], goal));
+            } else if (reader != 0) {
                 setStatus(copy, IS_ON_SHELF, reader, rules.today + SHELF_DAYS);
             } else {
-                sendCopy(copy, readers.pickupPlace[reader], reader);
+                setStatus(copy, IS_IN, 0, NONE);
             }
-        }
-
-        private void sendCopy(int copy, int goal, int reader) {
-            sentTo[copy] = goal;
-            setStatus(copy, IS_UNDER_WAY, reader, rules.arrivalDay(place[copy], goal));
         }
 
         private void setStatus(int copy, int newStatus, int reader, int newDay) {
@@ -2624,7 +2614,7 @@ public final class LibraryHouse {
             for (int copy = firstArrival(); copy != 0 && moved < COPIES; copy = firstArrival()) {
                 place[copy] = sentTo[copy];
                 if (holder[copy] != 0) {
-                    sendOrShelve(copy, holder[copy]);
+                    direct(copy, holder[copy]);
                 } else {
                     settle(copy, place[copy]);
                 }
@@ -2825,7 +2815,7 @@ public final class LibraryHouse {
             if (rank < 0 || rank > 9) {
                 return RANGE;
             }
-            if (queuedAt(reader, record) != NONE || copyFor(reader, record) != 0
+            if (queuedAt(reader, record) != NONE || copyFor(reader, record, true) != 0
                     || !hasCopyLeft(record)) {
                 return STATE;
             }
@@ -2851,8 +2841,8 @@ public final class LibraryHouse {
                 removeQueued(entry);
                 return 1;
             }
-            int copy = copyFor(reader, record);
-            if (copy == 0 || status[copy] == IS_LENT) {
+            int copy = copyFor(reader, record, false);
+            if (copy == 0) {
                 return NONE;
             }
             if (status[copy] == IS_ON_SHELF) {
@@ -2863,10 +2853,11 @@ public final class LibraryHouse {
             return 1;
         }
 
-        /** A copy of a record that is LENT to a reader, or on the SHELF or UNDER WAY for it, or 0. */
-        private int copyFor(int reader, int record) {
+        /** A copy of a record on the SHELF or UNDER WAY for a reader, or perhaps LENT to it; or 0. */
+        private int copyFor(int reader, int record, boolean lentToo) {
             for (int copy = 1; copy <= copies; copy++) {
-                if (ofRecord[copy] == record && holder[copy] == reader) {
+                if (ofRecord[copy] == record && holder[copy] == reader
+                        && (lentToo || status[copy] != IS_LENT)) {
                     return copy;
                 }
             }
@@ -3035,7 +3026,7 @@ public final class LibraryHouse {
             return false;
         }
 
-        /** Whether somebody waits for a record, or has or booked a copy of it, or one goes about. */
+        /** Whether anybody waits for a record or booked a copy, or one is not IN nor AWAY. */
         boolean isInUse(int record) {
             boolean inUse = queueLength(record) > 0;
             for (int copy = 1; copy <= copies; copy++) {
@@ -3078,7 +3069,7 @@ public final class LibraryHouse {
                 for (int i = 0; i < queued; i++) {
                     wrong = wrong || queueReader[i] == reader
                             && (queuedAt(reader, queueRecord[i]) != i
-                            || copyFor(reader, queueRecord[i]) != 0);
+                            || copyFor(reader, queueRecord[i], true) != 0);
                 }
                 number += wrong ? 1 : 0;
             }
