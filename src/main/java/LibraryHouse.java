@@ -273,7 +273,7 @@ public final class LibraryHouse {
             }
         }
         int told = desk.valueOfRank(i);
-        if (told == NONE || k < -1) {
+        if (told == NONE) {
             return NONE;
         }
         return k == -1 ? desk.valueRecords[told] : tape.rowByte(desk.valueRow[told], k);
@@ -961,9 +961,10 @@ public final class LibraryHouse {
             return wrong == NONE && at < to ? bytes[at] & 255 : NONE;
         }
 
-        void stopAt(int place) {
+        /** What comes is WRONG, whatever it is. */
+        void stopHere() {
             if (wrong == NONE) {
-                wrong = place - from;
+                wrong = at - from;
             }
         }
 
@@ -1051,34 +1052,30 @@ public final class LibraryHouse {
             return b;
         }
 
+        /** What may follow a ROW is no byte of one, so that whoever reads on finds a 41st WRONG. */
         int takeRow() {
             int start = at;
             while (at < to && at - start < ROW_BYTES && bytes[at] >= ' ' && bytes[at] <= '~'
                     && bytes[at] != '$') {
                 at++;
             }
-            boolean longer = at - start == ROW_BYTES && at < to && bytes[at] >= ' '
-                    && bytes[at] <= '~' && bytes[at] != '$';
-            if ((at == start || longer) && wrong == NONE) {
+            if (at == start && wrong == NONE) {
                 wrong = at - from;
             }
             return start << ROW_SHIFT | (at - start);
         }
 
-        /** A WORD of a QUESTION, told as a ROW is. */
+        /** A WORD of a QUESTION, told as a ROW is; whoever reads on finds a 13th byte WRONG. */
         int takeSmallWord() {
             int start = at;
-            while (at < to && at - start <= WORD_BYTES && (bytes[at] >= 'a' && bytes[at] <= 'z'
+            while (at < to && at - start < WORD_BYTES && (bytes[at] >= 'a' && bytes[at] <= 'z'
                     || bytes[at] >= '0' && bytes[at] <= '9')) {
                 at++;
             }
-            int length = at - start;
-            if (length > WORD_BYTES && wrong == NONE) {
-                wrong = start + WORD_BYTES - from;
-            } else if (length == 0 && wrong == NONE) {
+            if (at == start && wrong == NONE) {
                 wrong = at - from;
             }
-            return start << ROW_SHIFT | length;
+            return start << ROW_SHIFT | (at - start);
         }
 
         /** Which of the words comes, from 0 on; the list has a bar between them. */
@@ -1143,6 +1140,7 @@ public final class LibraryHouse {
         final int[] tag = new int[DRAFT_FIELDS];
         final int[] first = new int[DRAFT_FIELDS];
         final int[] second = new int[DRAFT_FIELDS];
+        /** Of a PRINT alone: to which heading each field is LINKED, or 0. */
         final int[] heading = new int[DRAFT_FIELDS];
         final int[] subs = new int[DRAFT_FIELDS];
         final int[] code = new int[DRAFT_FIELDS * DRAFT_SUBFIELDS];
@@ -1181,7 +1179,6 @@ public final class LibraryHouse {
             tag[fields] = newTag;
             first[fields] = firstIndicator;
             second[fields] = secondIndicator;
-            heading[fields] = 0;
             subs[fields] = 0;
             fields++;
             return fields - 1;
@@ -1218,7 +1215,6 @@ public final class LibraryHouse {
             tag[to] = other.tag[from];
             first[to] = other.first[from];
             second[to] = other.second[from];
-            heading[to] = other.heading[from];
             subs[to] = other.subs[from];
             int slot = from * DRAFT_SUBFIELDS;
             System.arraycopy(other.code, slot, code, to * DRAFT_SUBFIELDS, DRAFT_SUBFIELDS);
@@ -1598,21 +1594,18 @@ public final class LibraryHouse {
                 }
             }
             if (depth > 0) {
-                tape.stopAt(tape.at);
+                tape.stopHere();
             }
             settleWaiting(false);
         }
 
+        /** A bracket that would be too deep is left to the TERM, that can't begin with it. */
         private int openBrackets(int depth) {
             int deep = depth;
-            for (int i = 0; i <= BRACKETS && tape.peek() == '('; i++) {
-                if (deep >= BRACKETS) {
-                    tape.stopAt(tape.at);
-                } else {
-                    tape.takeByte('(');
-                    pushWaiting(OPENED);
-                    deep++;
-                }
+            while (deep < BRACKETS && tape.peek() == '(') {
+                tape.takeByte('(');
+                pushWaiting(OPENED);
+                deep++;
             }
             return deep;
         }
@@ -1630,7 +1623,8 @@ public final class LibraryHouse {
 
         private void readJoint() {
             tape.takeByte(' ');
-            int joint = AND - Math.max(0, tape.takeWord("and|or|not"));
+            int which = tape.takeWord("and|or|not");
+            int joint = which == 0 ? AND : which == 1 ? OR : NOT;
             tape.takeByte(' ');
             settleWaiting(joint == AND);
             pushWaiting(joint);
@@ -1661,7 +1655,7 @@ public final class LibraryHouse {
 
         private void readTerm() {
             if (terms >= TERMS) {
-                tape.stopAt(tape.at);
+                tape.stopHere();
                 return;
             }
             int kind = tape.takeWord("t|a|s|n|h");
@@ -1691,7 +1685,7 @@ public final class LibraryHouse {
             for (int i = 1; i <= PHRASE_WORDS && tape.peek() == ' '; i++) {
                 tape.takeByte(' ');
                 if (i == PHRASE_WORDS) {
-                    tape.stopAt(tape.at);
+                    tape.stopHere();
                 } else {
                     addWord(tape.takeSmallWord());
                 }
@@ -1745,8 +1739,8 @@ public final class LibraryHouse {
                     height--;
                     boolean left = truth[height - 1];
                     boolean right = truth[height];
-                    truth[height - 1] = step == AND ? left && right
-                            : step == OR ? left || right : left && !right;
+                    truth[height - 1] = step == OR ? left || right
+                            : left && right != (step == NOT);
                 }
             }
             return height > 0 && truth[0];
@@ -2241,7 +2235,7 @@ public final class LibraryHouse {
             int least = '0';
             for (int i = 0; i <= 7 && (i == 0 || isDigit(tape.peek())); i++) {
                 if (tape.peek() < least) {
-                    tape.stopAt(tape.at);
+                    tape.stopHere();
                 }
                 int day = tape.takeBetween('0', '6');
                 days |= 1 << day;
@@ -2255,7 +2249,6 @@ public final class LibraryHouse {
             tape.takeByte(' ');
             int kind = tape.takeWord("must|once|has|most");
             newLine[at + 1] = kind;
-            newLine[at + 2] = 0;
             if (kind >= HAS) {
                 tape.takeByte(' ');
                 newLine[at + 2] = kind == HAS ? tape.takeCode() : tape.takeNumber(1, ROW_BYTES);
@@ -2853,7 +2846,7 @@ public final class LibraryHouse {
             return 1;
         }
 
-        /** A copy of a record on the SHELF or UNDER WAY for a reader, or perhaps LENT to it; or 0. */
+        /** A copy on the SHELF or UNDER WAY for a reader, or perhaps one LENT to it; or 0. */
         private int copyFor(int reader, int record, boolean lentToo) {
             for (int copy = 1; copy <= copies; copy++) {
                 if (ofRecord[copy] == record && holder[copy] == reader
@@ -3510,7 +3503,7 @@ public final class LibraryHouse {
                 }
             }
             int store = nextStore(pack);
-            while (store != NONE && copiesOf(pack) < PACKAGE_COPIES) {
+            for (int copies = copiesOf(pack); copies < PACKAGE_COPIES && store != NONE; copies++) {
                 copyBytes(pack, model, store);
                 present[pack * STORES + store] = true;
                 mended++;

@@ -9,8 +9,6 @@ import java.util.List;
 import java.util.Map;
 import java.util.Set;
 import java.util.TreeSet;
-import java.util.regex.Matcher;
-import java.util.regex.Pattern;
 
 /**
  * Runs the scripts under src/test/scripts, a call a line with the answer that is due. README.md
@@ -18,7 +16,6 @@ import java.util.regex.Pattern;
  */
 public final class ScriptTest {
     private static final Path SCRIPTS = Path.of("src", "test", "scripts");
-    private static final Pattern WORD = Pattern.compile("\"(?:[^\"\\\\]|\\\\.)*\"|\\S+");
     private static final Map<String, Method> METHODS = new HashMap<>();
     private static int right = 0;
     private static int wrong = 0;
@@ -78,11 +75,7 @@ public final class ScriptTest {
     }
 
     private void row(String line, int number) throws ReflectiveOperationException {
-        List<String> words = new ArrayList<>();
-        Matcher matcher = WORD.matcher(line);
-        while (matcher.find()) {
-            words.add(matcher.group());
-        }
+        List<String> words = split(line);
         if (words.get(0).equals("new")) {
             house = new LibraryHouse();
             return;
@@ -104,6 +97,30 @@ public final class ScriptTest {
             System.out.println(place + ":" + number + ": " + line + "   but it answered "
                     + got.replace("\n", "\\n"));
         }
+    }
+
+    /** The words of a line; what stands in quotes is one, with them. */
+    private static List<String> split(String line) {
+        List<String> words = new ArrayList<>();
+        StringBuilder word = new StringBuilder();
+        boolean quoted = false;
+        for (int i = 0; i < line.length(); i++) {
+            char c = line.charAt(i);
+            if (c == ' ' && !quoted) {
+                words.add(word.toString());
+                word.setLength(0);
+                continue;
+            }
+            word.append(c);
+            if (c == '\\' && quoted) {
+                i++;
+                word.append(line.charAt(i));
+            } else if (c == '"') {
+                quoted = !quoted;
+            }
+        }
+        words.add(word.toString());
+        return words;
     }
 
     private String answer(List<String> words) throws ReflectiveOperationException {
