@@ -179,12 +179,7 @@ public final class RandomRunsTest {
     private void feed(String text) {
         told.add("text " + text.replace("\n", "\\n"));
         int mark = told.size();
-        for (int from = 0; from < text.length(); from += 20) {
-            int[] word = new int[5];
-            for (int i = 0; i < 20; i++) {
-                int b = from + i < text.length() ? text.charAt(from + i) & 255 : 0;
-                word[i / 4] = word[i / 4] << 8 | b;
-            }
+        for (int[] word : Texts.words(text)) {
             call("feed", word);
         }
         call("end", text.length());

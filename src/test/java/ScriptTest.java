@@ -1,6 +1,5 @@
 import java.io.IOException;
 import java.lang.reflect.Method;
-import java.nio.charset.StandardCharsets;
 import java.nio.file.Files;
 import java.nio.file.Path;
 import java.util.ArrayList;
@@ -144,7 +143,8 @@ public final class ScriptTest {
         List<Object> given = new ArrayList<>();
         for (String word : words.subList(1, words.size())) {
             if (word.startsWith("\"")) {
-                feed(plain(word));
+                house.end(0);
+                Texts.feed(house, plain(word));
             } else if (word.equals("true") || word.equals("false")) {
                 given.add(word.equals("true"));
             } else {
@@ -158,19 +158,6 @@ public final class ScriptTest {
         return quoted.substring(1, quoted.length() - 1).replace("\\n", "\n").replace("\\\"", "\"")
                 .replace("\\e", "\u00e9").replace("\\r", "\u001e").replace("\\u", "\u001f")
                 .replace("\\g", "\u001d");
-    }
-
-    private void feed(String text) {
-        byte[] bytes = text.getBytes(StandardCharsets.ISO_8859_1);
-        house.end(0);
-        for (int from = 0; from < bytes.length; from += 20) {
-            int[] word = new int[5];
-            for (int i = 0; i < 20; i++) {
-                word[i / 4] = word[i / 4] << 8 | (from + i < bytes.length ? bytes[from + i] & 255 : 0);
-            }
-            house.feed(word[0], word[1], word[2], word[3], word[4]);
-        }
-        house.end(bytes.length);
     }
 
     private String page(List<String> words) {
