@@ -151,6 +151,7 @@ public final class LibraryHouse {
     /** The record at hand: one that is read, or a PRINT, or one that a batch works on. */
     private final Draft work = new Draft();
 
+    /** Of each ACT the call, its four arguments and how many bytes its text has. */
     private final int[] journal = new int[CALLS * ENTRY];
     private int acts;
     private int laid;
@@ -158,6 +159,7 @@ public final class LibraryHouse {
     private boolean synced;
     private int deedFrom = NONE;
 
+    /** The MESSAGE that was KEPT latest, told as a ROW is, or 0; and what was told of it. */
     private int keptMessage;
     private int keptAnswer;
 
@@ -923,8 +925,10 @@ public final class LibraryHouse {
      */
     private static final class Tape {
         final byte[] bytes = new byte[TEXT_BYTES];
+        /** How many bytes the texts of ACTS have, and the tape behind them. */
         int kept;
         int fed;
+        /** The text that is read: where it begins, goes on and ends, and its place that is WRONG. */
         int from;
         int at;
         int to;
@@ -1275,6 +1279,7 @@ public final class LibraryHouse {
     /** Records and their VERSIONS. */
     private static final class Catalog {
         int records;
+        /** The latest VERSION of each record; each VERSION knows the one before it. */
         final int[] last = new int[RECORDS + 1];
         final int[] goneOn = new int[RECORDS + 1];
         final int[] changed = new int[RECORDS + 1];
@@ -1367,7 +1372,7 @@ public final class LibraryHouse {
                 return NONE;
             }
             int version = last[record];
-            while (version != NONE && day[version] > onDay) {
+            for (int i = 0; i < VERSIONS && version != NONE && day[version] > onDay; i++) {
                 version = earlier[version];
             }
             return version;
@@ -1375,7 +1380,9 @@ public final class LibraryHouse {
 
         int versionsOf(int record) {
             int number = 0;
-            for (int version = last[record]; version != NONE; version = earlier[version]) {
+            int version = last[record];
+            while (version != NONE && number < VERSIONS) {
+                version = earlier[version];
                 number++;
             }
             return number;
@@ -1480,7 +1487,7 @@ public final class LibraryHouse {
 
         private int nameOn(int heading, int day) {
             int name = lastName[heading];
-            while (nameDay[name] > day && earlierName[name] != NONE) {
+            for (int i = 0; i < NAMES && nameDay[name] > day && earlierName[name] != NONE; i++) {
                 name = earlierName[name];
             }
             return nameRow[name];
@@ -1554,10 +1561,13 @@ public final class LibraryHouse {
         private static final int HEADING_TERM = 4;
         private final Tape tape;
         private final Authority authority;
+        /** Numbers of TERMS, and what joins them behind both its sides. */
         private final int[] program = new int[2 * TERMS];
         private int programLength;
+        /** Open brackets, and what joins TERMS but has not its right side yet. */
         private final int[] waiting = new int[2 * TERMS + BRACKETS];
         private int waitingCount;
+        /** Of each TERM where it looks, and its WORDS or the heading that it asks for. */
         private int terms;
         private final int[] place = new int[TERMS];
         private final int[] firstWord = new int[TERMS];
@@ -1567,6 +1577,7 @@ public final class LibraryHouse {
         private int words;
         private final int[] word = new int[TERMS * PHRASE_WORDS];
         private final boolean[] truth = new boolean[TERMS + 1];
+        /** The WORDS of the record that is asked, each with its SUBFIELD. */
         private int seen;
         private final int[] seenWord = new int[FIELDS * SUBFIELDS * ROW_BYTES / 2];
         private final int[] seenSlot = new int[FIELDS * SUBFIELDS * ROW_BYTES / 2];
@@ -2536,8 +2547,10 @@ public final class LibraryHouse {
         private final int[] ofRecord = new int[COPIES + 1];
         private final int[] type = new int[COPIES + 1];
         private final int[] status = new int[COPIES + 1];
+        /** Who has a copy, or for whom it is on the SHELF or UNDER WAY; 0 if nobody. */
         private final int[] holder = new int[COPIES + 1];
         private final int[] loan = new int[COPIES + 1];
+        /** UNTIL, or the day on which a copy ARRIVES. */
         private final int[] day = new int[COPIES + 1];
         private final int[] place = new int[COPIES + 1];
         private final int[] homePlace = new int[COPIES + 1];
@@ -3082,6 +3095,7 @@ public final class LibraryHouse {
         private final int[] issues = new int[SERIALS + 1];
         private final int[] issueDay = new int[(SERIALS + 1) * ISSUES];
         private final int[] cameOn = new int[(SERIALS + 1) * ISSUES];
+        /** How far claimOfRank() has gone along each serial. */
         private final int[] claimed = new int[SERIALS + 1];
         private int funds;
         private final int[] given = new int[FUNDS + 1];
