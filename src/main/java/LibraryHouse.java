@@ -928,7 +928,7 @@ public final class LibraryHouse {
         /** How many bytes the texts of ACTS have, and the tape behind them. */
         int kept;
         int fed;
-        /** The text that is read: where it begins, goes on and ends, and its place that is WRONG. */
+        /** The text that is read: where it begins, goes on and ends, and what place is WRONG. */
         int from;
         int at;
         int to;
