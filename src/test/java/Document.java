@@ -15,6 +15,10 @@ final class Document {
     private final Map<String, boolean[]> quoted = new LinkedHashMap<>();
 
     Document() throws IOException {
+        if (!isThere()) {
+            System.out.println("quotes are not compared: there is no " + PLACE);
+            return;
+        }
         String section = "";
         StringBuilder text = new StringBuilder();
         for (String line : Files.readAllLines(PLACE)) {
@@ -26,6 +30,10 @@ final class Document {
             }
         }
         keep(section, text);
+    }
+
+    private static boolean isThere() {
+        return Files.isReadable(PLACE);
     }
 
     private void keep(String section, StringBuilder text) {
@@ -40,6 +48,9 @@ final class Document {
      * out of it is told as dots.
      */
     boolean quote(String section, String sentence) {
+        if (!isThere()) {
+            return true;
+        }
         String text = texts.get(section);
         String[] ends = sentence.split(" \\.\\.\\. ");
         int from = text == null ? -1 : text.indexOf(ends[0]);

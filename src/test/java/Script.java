@@ -129,8 +129,15 @@ final class Script {
             case "octets": return list(house, "octet", number(words.get(1)));
             case "values": return values(house, number(words.get(1)));
             case "constant": return constant(words.get(1));
+            case "tape": return String.valueOf(tape(words.get(1), house));
             default: return String.valueOf(house.call(row.name(), given(words, house)));
         }
+    }
+
+    private static int tape(String quoted, Caller house) {
+        String text = plain(quoted);
+        house.tape(text);
+        return text.length();
     }
 
     private static Object[] given(List<String> words, Caller house) {
