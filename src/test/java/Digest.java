@@ -9,15 +9,20 @@ final class Digest {
     private Digest() {
     }
 
+    /** Whether houses with these calls have enough of their 512 left to be asked. */
+    static boolean canAsk(List<Caller.Call> one, List<Caller.Call> other) {
+        return Caller.MOST_CALLS - Math.max(one.size(), other.size()) >= LEAST_CHUNK;
+    }
+
     /**
      * The first question that two houses answer otherwise, told with both answers; empty if there
      * is none. No house is asked so much that it has more calls than the document promises.
      */
     static String difference(List<Caller.Call> one, List<Caller.Call> other, boolean desk) {
-        int chunk = Caller.MOST_CALLS - Math.max(one.size(), other.size());
-        if (chunk < LEAST_CHUNK) {
+        if (!canAsk(one, other)) {
             return "";
         }
+        int chunk = Caller.MOST_CALLS - Math.max(one.size(), other.size());
         List<Caller.Call> all = questions(new Caller(one), desk);
         for (int from = 0; from < all.size(); from += chunk) {
             Caller first = new Caller(one);

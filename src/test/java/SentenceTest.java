@@ -127,7 +127,6 @@ public final class SentenceTest {
             fail("line " + row.line() + ": " + row.text() + "   but it answered "
                     + told.replace("\n", "\\n"));
         } else if (isRefusal(row)) {
-            refusals++;
             checkNothingHappened(row);
         }
     }
@@ -161,6 +160,7 @@ public final class SentenceTest {
         if (without.remove(without.size() - 1).readsText()) {
             without.add(new Caller.Call("end", 0));
         }
+        refusals += Digest.canAsk(with, without) ? 1 : 0;
         String difference = Digest.difference(with, without, true);
         if (!difference.isEmpty()) {
             fail("line " + row.line() + ": " + row.text() + " is refused, but " + difference);
