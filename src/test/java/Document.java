@@ -62,6 +62,11 @@ final class Document {
         return true;
     }
 
+    /** A section in one line; empty if there is none such. */
+    String text(String section) {
+        return texts.getOrDefault(section, "");
+    }
+
     /** The sections that promise something, each with what of it nobody quoted. */
     List<String> unquoted() {
         List<String> left = new ArrayList<>();
