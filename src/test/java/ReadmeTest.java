@@ -14,7 +14,7 @@ import java.util.stream.Stream;
 public final class ReadmeTest {
     private static final Path SOURCES = Path.of("src", "test", "java");
     private static final Pattern BLOCK = Pattern.compile("(?ms)^```(\\w+)\\n(.*?)^```$");
-    private static final Pattern PLACE = Pattern.compile("`((?:src|\\.ci|\\.\\./shared)[^` ]*)`");
+    private static final Pattern PLACE = Pattern.compile("`((?:src|\\.ci)/[^` ]*)`");
     private static int checked = 0;
     private static int wrong = 0;
 
@@ -124,7 +124,7 @@ public final class ReadmeTest {
         }
     }
 
-    /** The places that it names are there, and it names all classes inside and all tests. */
+    /** The places of the project that it names are there, and it names all classes inside and all tests. */
     private void checkNames() throws IOException {
         Matcher places = PLACE.matcher(text);
         while (places.find()) {
